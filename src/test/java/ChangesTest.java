@@ -11,18 +11,12 @@ public final class ChangesTest {
         Check.finish();
     }
 
-    private static void sits(String what, SecondOboe x, int... want) {
-        for (int s = 0; s < want.length; s++) {
-            Check.due(what + ": seat(" + s + ")", want[s], x.seat(s));
-        }
-    }
-
     private static void change() {
         SecondOboe x = new SecondOboe();
         Check.due("change(0, 4)", 4, x.change(0, 4));
-        sits("changed", x, 4, 0, 1, 3, 2);
+        Check.sits("changed", x, 4, 0, 1, 3, 2);
         Check.due("change(4, 1)", 0, x.change(4, 1));
-        sits("changed the other way round", x, 4, 2, 1, 3, 0);
+        Check.sits("changed the other way round", x, 4, 2, 1, 3, 0);
         int[] bad = {-1, 5, 7, Integer.MIN_VALUE, Integer.MAX_VALUE};
         for (int s : bad) {
             Check.due("change(" + s + ", 0)", SecondOboe.BAD, x.change(s, 0));
@@ -31,7 +25,7 @@ public final class ChangesTest {
         for (int s = 0; s < 5; s++) {
             Check.due("change alike " + s, SecondOboe.BAD, x.change(s, s));
         }
-        sits("not changed by what is bad", x, 4, 2, 1, 3, 0);
+        Check.sits("not changed by what is bad", x, 4, 2, 1, 3, 0);
         Check.due("what is bad can't be undone", 2, x.count(5));
         Check.due("change of the only seat", SecondOboe.BAD, Check.laid("i0,0,0;").change(0, 0));
     }
@@ -61,13 +55,13 @@ public final class ChangesTest {
         x.bribe(3);
         x.change(3, 1);
         Check.due("undo a change", 2, x.undo());
-        sits("undone", x, 3, 0, 1, 2, 4);
+        Check.sits("undone", x, 3, 0, 1, 2, 4);
         Check.due("still bribed", 1, x.instrument(3, 4));
         Check.due("undo a bribe", 1, x.undo());
         Check.due("no more bribed", 0, x.instrument(3, 4));
         Check.due("played as by now", 2, x.first());
         Check.due("undo the first", 0, x.undo());
-        sits("all undone", x, 2, 0, 1, 3, 4);
+        Check.sits("all undone", x, 2, 0, 1, 3, 4);
         Check.due("no more to undo", SecondOboe.NO, x.undo());
         x.bribe(1);
         x.bribe(1);
@@ -90,7 +84,7 @@ public final class ChangesTest {
             Check.due("undo, left", left, x.undo());
         }
         Check.due("the ninth can't be", SecondOboe.NO, x.undo());
-        sits("the first two stay", x, 0, 2, 1, 3, 4);
+        Check.sits("the first two stay", x, 0, 2, 1, 3, 4);
         Check.due("the first bribe stays", 1, x.instrument(0, 4));
         Check.due("only the first bribe", 1, x.count(3));
         for (int a = 0; a < 5; a++) {
@@ -98,7 +92,7 @@ public final class ChangesTest {
                 if (a != b) {
                     x.change(a, b);
                     x.undo();
-                    sits("change " + a + " and " + b + " undone", x, 0, 2, 1, 3, 4);
+                    Check.sits("change " + a + " and " + b + " undone", x, 0, 2, 1, 3, 4);
                 }
             }
         }

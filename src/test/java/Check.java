@@ -40,6 +40,12 @@ final class Check {
         return x;
     }
 
+    static void sits(String what, SecondOboe x, int... want) {
+        for (int s = 0; s < want.length; s++) {
+            due(what + ": seat(" + s + ")", want[s], x.seat(s));
+        }
+    }
+
     static void finish() {
         System.out.println(asked + " answers, " + wrong + " wrong");
         if (wrong != 0) {

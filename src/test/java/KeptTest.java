@@ -34,17 +34,17 @@ public final class KeptTest {
         x.change(0, 1);
         x.heard(0, 0, 1);
         Check.due("back", 1, x.back());
-        sits("as kept last", x, 4, 1, 0, 3, 2);
+        Check.sits("as kept last", x, 4, 1, 0, 3, 2);
         Check.due("bribes as kept last", 2, x.count(3));
         Check.due("beside as kept last", 2, x.instrument(4, 5));
         Check.due("what was heard stays", 1, x.count(4));
         Check.due("back to the first", 0, x.back());
-        sits("as kept first", x, 4, 0, 1, 3, 2);
+        Check.sits("as kept first", x, 4, 0, 1, 3, 2);
         Check.due("bribes as kept first", 1, x.count(3));
         Check.due("1 is bribed", 1, x.instrument(1, 4));
         Check.due("2 is not", 0, x.instrument(2, 4));
         Check.due("none left", SecondOboe.NO, x.back());
-        sits("still as kept first", x, 4, 0, 1, 3, 2);
+        Check.sits("still as kept first", x, 4, 0, 1, 3, 2);
         SecondOboe played = new SecondOboe();
         played.keep();
         played.bribe(3);
@@ -75,12 +75,6 @@ public final class KeptTest {
         x.bribe(2);
         Check.due("back refused", SecondOboe.NO, x.back());
         Check.due("undo stays where back is refused", 1, x.count(5));
-    }
-
-    private static void sits(String what, SecondOboe x, int... want) {
-        for (int s = 0; s < want.length; s++) {
-            Check.due(what + ": seat(" + s + ")", want[s], x.seat(s));
-        }
     }
 
     private static void counts(String what, SecondOboe x, int... want) {

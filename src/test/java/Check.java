@@ -2,6 +2,9 @@
 final class Check {
     private static int asked = 0;
     private static int wrong = 0;
+    private static int edges = 0;
+    private static int askedAtEdge = 0;
+    private static String edge = "";
 
     private Check() {
     }
@@ -11,8 +14,23 @@ final class Check {
         if (got != want) {
             wrong++;
             if (wrong <= 40) {
-                System.out.println(call + " answered " + got + ", due is " + want);
+                System.out.println(edge + call + " answered " + got + ", due is " + want);
             }
+        }
+    }
+
+    /** From here on it is the boundary told by these words of the document that is tested. */
+    static void edge(String words) {
+        endEdge();
+        edges++;
+        askedAtEdge = asked;
+        edge = "[" + words + "] ";
+    }
+
+    private static void endEdge() {
+        if (edges > 0 && asked == askedAtEdge) {
+            wrong++;
+            System.out.println(edge + "is not tested");
         }
     }
 
@@ -24,9 +42,9 @@ final class Check {
     }
 
     static void write(SecondOboe x, String text) {
+        int before = x.count(7);
         for (int k = 0; k < text.length(); k++) {
-            int before = x.count(7);
-            due("write in " + text, before + 1, x.write(text.charAt(k)));
+            due("write in " + text, before + k + 1, x.write(text.charAt(k)));
         }
     }
 
@@ -47,7 +65,8 @@ final class Check {
     }
 
     static void finish() {
-        System.out.println(asked + " answers, " + wrong + " wrong");
+        endEdge();
+        System.out.println((edges > 0 ? edges + " boundaries, " : "") + asked + " answers, " + wrong + " wrong");
         if (wrong != 0) {
             System.exit(1);
         }

@@ -5,18 +5,21 @@ public final class ReferenceTest {
     private static final int[] WILD = {-1, -2, 7, 8, 9, 10, 20, 21, 31, 32, 56, 57, 63, 64, 100, 9999, 10000,
         Integer.MIN_VALUE, Integer.MAX_VALUE, Integer.MIN_VALUE + 1, Integer.MAX_VALUE - 1, 1 << 16};
     private static final int CALLS = 32;
+    // What an object answers behind its 512th call is free; a band takes some 210 of them.
+    private static final int ENOUGH = 512 - 212;
 
     private final Random random;
     private final SecondOboe x = new SecondOboe();
     private final PlainOboe y = new PlainOboe();
     private final StringBuilder run = new StringBuilder();
+    private int calls;
 
     private ReferenceTest(long seed) {
         random = new Random(seed);
     }
 
     public static void main(String[] args) {
-        int runs = args.length > 0 ? Integer.parseInt(args[0]) : 600;
+        int runs = args.length > 0 ? Integer.parseInt(args[0]) : 700;
         long seed = args.length > 1 ? Long.parseLong(args[1]) : 1;
         for (int k = 0; k < runs; k++) {
             new ReferenceTest(seed + k).play();
@@ -28,7 +31,7 @@ public final class ReferenceTest {
         if (random.nextInt(6) != 0) {
             band();
         }
-        for (int k = 0; k < 60; k++) {
+        for (int k = 0; k < 60 && calls <= ENOUGH; k++) {
             if (random.nextInt(25) == 0) {
                 band();
             }
@@ -38,6 +41,7 @@ public final class ReferenceTest {
 
     private void due(String call, int want, int got) {
         run.append(call).append(' ');
+        calls++;
         Check.due(want == got ? "" : run.toString(), want, got);
     }
 

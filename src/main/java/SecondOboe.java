@@ -248,18 +248,20 @@ public final class SecondOboe {
         if (part < 0 || part > 1) {
             return BAD;
         }
-        return inLowestTerms(surveyed().wholeSeatings, survey.seatings, part);
+        Survey all = surveyed();
+        return inLowestTerms(all.wholeSeatings, all.seatings, part);
     }
 
     public int atLeast(int n, int part) {
         if (n < 0 || n > MOST_NOTES || part < 0 || part > 1) {
             return BAD;
         }
+        Survey all = surveyed();
         int above = 0;
         for (int k = n; k <= MOST_NOTES; k++) {
-            above += surveyed().seatingsBySounded[k];
+            above += all.seatingsBySounded[k];
         }
-        return inLowestTerms(above, survey.seatings, part);
+        return inLowestTerms(above, all.seatings, part);
     }
 
     // ---- what was heard
